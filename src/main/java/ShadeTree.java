@@ -345,9 +345,9 @@ public final class ShadeTree {
     }
 
     /** The row of told doings without its last ones. */
-    private static long withoutLast(long row, int doings) {
+    private static long withoutLast(long row, int count) {
         long rest = row;
-        for (int i = 0; i < doings; i++) {
+        for (int i = 0; i < count && i < MOST_TOLD; i++) {
             rest /= 10000;
         }
         return rest;
