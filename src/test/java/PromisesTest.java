@@ -1,17 +1,9 @@
 /**
- * Each promise of the document by hand: ordinary inputs, the edges it names, and wrong inputs.
- *
- * <p>Most of it is asked of one picture:
- * <pre>
- *   5 5 0 9      dots 0 .. 3
- *   0 1 1 1      dots 4 .. 7
- *   3 0 7 0      dots 8 .. 11
- * </pre>
- * By way 4 its nodes are {3} at 9, {10} at 7, {0, 1} at 5, {8} at 3, M = {0, 1, 3, 5, 6, 7, 10} at
- * 1 and all dots at 0; by way 8 dot 8 hangs together with M at 1.
+ * Each promise of the document by hand: ordinary inputs, the edges it names, and wrong inputs. Most
+ * of it is asked of the picture that stands at Pictures.FIGURES.
  */
 public final class PromisesTest {
-    private static final String FIGURES = "550901113070";
+    private static final String FIGURES = Pictures.FIGURES;
     private static final int[] WRONG = {Integer.MIN_VALUE, -1, Integer.MAX_VALUE};
 
     private static final Due due = new Due();
@@ -54,43 +46,28 @@ public final class PromisesTest {
     }
 
     private static ShadeTree told(String letters) {
-        ShadeTree x = new ShadeTree();
-        tell(x, letters);
-        return x;
+        return Pictures.told(letters);
     }
 
     private static void tell(ShadeTree x, String letters) {
-        x.wipe();
-        for (char c : letters.toCharArray()) {
-            x.write(c);
-        }
+        Pictures.tell(x, letters);
     }
 
     private static ShadeTree shown(String letters) {
-        ShadeTree x = told(letters);
-        is("fault() of " + letters, x.fault(), ShadeTree.NONE);
-        x.picture();
-        return x;
+        return Pictures.shown(letters);
     }
 
     private static ShadeTree four() {
-        return shown("P443" + FIGURES);
+        return Pictures.four();
     }
 
     private static ShadeTree eight() {
-        return shown("P843" + FIGURES);
-    }
-
-    private static String shades(ShadeTree x) {
-        StringBuilder all = new StringBuilder();
-        for (int dot = 0; x.shade(dot) >= 0; dot++) {
-            all.append(x.shade(dot));
-        }
-        return all.toString();
+        return Pictures.eight();
     }
 
     private static void are(String when, ShadeTree x, String figures) {
-        due.so(when + ": " + shades(x) + ", due is " + figures, shades(x).equals(figures));
+        String shades = Pictures.shades(x);
+        due.so(when + ": " + shades + ", due is " + figures, shades.equals(figures));
     }
 
     // ---- 1
