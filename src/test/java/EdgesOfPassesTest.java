@@ -187,6 +187,11 @@ public final class EdgesOfPassesTest {
         doc.is("steady(1, 1): two children that grow more", Pictures.shown("P461434211").steady(1, 1), 1);
         doc.is("steady(1, 1): the last child grows less", Pictures.shown("P461439211").steady(1, 1), 0);
         doc.is("steady(1, 1): the first child grows less", Pictures.shown("P461934211").steady(1, 1), 0);
+        // dot 0 alone is the child: {0, 1} at 6 grows by 1/2, dot 0 at 8 not at all
+        doc.is("steady(1, 1): dot 0 grows less", Pictures.shown("P461865444").steady(1, 1), 0);
+        // 7/5 at 6 is less than 24/12 at 5, but more than 1/4 at 7
+        doc.is("steady(4, 1): a child one shade above grows less",
+                Pictures.shown("P466" + "777765" + "555555" + "4".repeat(24)).steady(4, 1), 0);
         doc.is("steady(5, 9): all dots grow by 0", Pictures.shown("P461434210").steady(5, 9), 1);
     }
 

@@ -23,6 +23,7 @@ public final class EdgesOfPicturesTest {
         faultOfTheFirst();
         sidesAndShades();
         orderOfDots();
+        otherSides();
         pictureTaken();
         pictureForgets();
         pictureRefused();
@@ -288,6 +289,24 @@ public final class EdgesOfPicturesTest {
         return Pictures.shown(ahead + dots);
     }
 
+    /** Nothing of the sides of the picture ahead is left. */
+    private static void otherSides() {
+        doc.of(5, "A PICTURE is w wide, h high (1 ..");
+        int[][] sides = {{3, 6}, {6, 1}, {2, 5}, {6, 6}, {1, 6}, {5, 2}, {1, 1}, {4, 3}};
+        ShadeTree x = new ShadeTree();
+        for (int[] side : sides) {
+            int size = side[0] * side[1];
+            String of = side[0] + " by " + side[1];
+            Pictures.show(x, "P4" + side[0] + side[1] + "9".repeat(size));
+            doc.is(of + ", pass() from the last dot", x.pass(size - 1, 0), 9);
+            doc.is(of + ", pass() to the last dot", x.pass(0, size - 1), 9);
+            doc.is(of + ", columns", x.node(0, 7), side[0]);
+            doc.is(of + ", rows", x.node(0, 8), side[1]);
+            doc.is(of + ", its dots", x.dots(0), (1L << size) - 1);
+            doc.is(of + ", one dot more", x.shade(size), UNKNOWN);
+        }
+    }
+
     private static void pictureTaken() {
         doc.of(5, "how many NODES");
         doc.is("picture() of one dot", Pictures.told("P4115").picture(), 1);
@@ -389,9 +408,19 @@ public final class EdgesOfPicturesTest {
                 Pictures.shown("P466" + "909090090909".repeat(3)).about(4), 18);
         doc.is("about(4) of a grid by 8",
                 Pictures.shown("P866" + "909090000000".repeat(3)).about(4), 9);
+        doc.is("about(4) of ten steps, one above the other",
+                Pictures.shown("P4520123456789").about(4), 1);
         doc.of(6, "DEPTH: how many NODES hold it, other than it.");
         doc.is("about(5) of one dot", new ShadeTree().about(5), 0);
         doc.is("about(5) of ten shades", Pictures.shown("P4520123456789").about(5), 9);
+        ShadeTree flat = Pictures.shown("P4520123456789");
+        flat.sift(0, 36);
+        doc.is("about(5), sifted to one NODE", flat.about(5), 0);
+        flat.undo();
+        doc.is("about(5), undone", flat.about(5), 9);
+        flat.sift(0, 36);
+        flat.paint(9, 9);
+        doc.is("about(5), one dot painted", flat.about(5), 1);
         doc.of(6, "LIGHT: their SHADES together");
         doc.is("about(6) of the dark", Pictures.shown("P466" + "0".repeat(36)).about(6), 0);
         doc.is("about(6) of the brightest", Pictures.shown("P466" + "9".repeat(36)).about(6), 324);
@@ -502,6 +531,8 @@ public final class EdgesOfPicturesTest {
         doc.is("node(0, 5) of one dot", new ShadeTree().node(0, 5), 0);
         doc.is("node(0, 5): not those of its child", steps.node(0, 5), 1);
         doc.is("node(9, 5) of the brightest", steps.node(9, 5), 0);
+        doc.is("node(0, 5): one shade above", Pictures.shown("P42101").node(0, 5), 1);
+        doc.is("node(0, 5): two parts in one child", Pictures.shown("P4410212").node(0, 5), 1);
         doc.is("node(1, 5) of a board",
                 Pictures.shown("P466" + "909090090909".repeat(3)).node(1, 5), 18);
         doc.of(8, "DEPTH: how many NODES hold it, other than it.");
@@ -541,6 +572,7 @@ public final class EdgesOfPicturesTest {
         doc.is("node(0, 9) of 8, 7, 9", Pictures.shown("P431879").node(0, 9), 1);
         doc.is("node(0, 9) of 1, 0, 2", Pictures.shown("P431102").node(0, 9), 1);
         doc.is("node(0, 9) of 9, 0, 9: as bright", Pictures.shown("P431909").node(0, 9), NONE);
+        doc.is("node(2, 9) of 9, 0, 8: only dot 0", Pictures.shown("P431908").node(2, 9), 8);
         doc.is("node(2, 9) of 8, 0, 9: the brightest", Pictures.shown("P431809").node(2, 9), NONE);
         doc.is("node(1, 9) of all dots", Pictures.shown("P431809").node(1, 9), NONE);
         // 9 is met at 6; at 2 there would be one, too
