@@ -150,6 +150,7 @@ public final class EdgesOfChancesTest {
                 + " NONE.");
         ways("P4110", new int[][] {}, 20, 4);
         ways("P8110", new int[][] {}, 20, 4);
+        doc.of(22, "WAYS: t (0 .. 9) and WAY (4, 8)");
         // a dot is in one PART with itself at its SHADE and below
         for (int v = 0; v <= 9; v++) {
             ways("P411" + v, new int[][] {{0, 0, 1}}, 2 * (v + 1), 4);

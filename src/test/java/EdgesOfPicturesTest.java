@@ -70,6 +70,12 @@ public final class EdgesOfPicturesTest {
         doc.of(1, "SLOTS 0 .. 1 keep SHADES");
         doc.is("again(0)", x.again(0), LATE);
         doc.is("again(1)", x.again(1), LATE);
+        doc.of(1, "An object is used for at most 512 calls after it has been made");
+        ShadeTree y = new ShadeTree();
+        for (int call = 1; call <= 511; call++) {
+            doc.is("call " + call + ", negative()", y.negative(), 1);
+        }
+        doc.is("call 512, shade(0)", y.shade(0), 9);
     }
 
     // ---- 2
