@@ -164,13 +164,20 @@ public final class EdgesOfChancesTest {
         ways("P422" + "9009", new int[][] {{0, 3, 1}, {1, 1, 0}}, 9, 18);
         ways("P822" + "9009", new int[][] {{0, 3, 1}, {1, 1, 0}}, 9, 18);
         ways("P822" + "9009", new int[][] {{0, 3, 0}}, 9, 14);
-        doc.of(22, "two DOTS were in one PART (1), or were not (0)");
+        doc.of(22, "SEEN: that at an unknown t, by an unknown WAY, two DOTS were in one PART (1),"
+                + " or were not (0)");
         // at 0 .. 4 both are there and joined; at 5, 6 only one is there; above none
         ways("P421" + "64", new int[][] {{0, 1, 1}}, 10, 4);
         ways("P421" + "64", new int[][] {{1, 0, 1}}, 10, 4);
         ways("P421" + "64", new int[][] {{0, 1, 0}}, 10, 54);
         ways("P421" + "64", new int[][] {{0, 1, 0}, {0, 0, 1}}, 4, 54);
         ways("P421" + "64", new int[][] {{0, 1, 0}, {0, 0, 0}}, 6, 74);
+        // by the corner they touch by way 8 alone, whichever way the picture has; at 0 by both
+        for (String way : new String[] {"P422", "P822"}) {
+            ways(way + "9009", new int[][] {{0, 3, 1}}, 11, 4);
+            ways(way + "9009", new int[][] {{0, 3, 0}}, 9, 14);
+            ways(way + "9009", new int[][] {{0, 3, 0}, {1, 2, 1}}, 0, NONE);
+        }
     }
 
     private static void waysOfDotsNotThere() {

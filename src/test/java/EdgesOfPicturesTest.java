@@ -605,6 +605,13 @@ public final class EdgesOfPicturesTest {
         doc.is("dots(35), the last alone", x.dots(35), 1L << 35);
         ShadeTree bit31 = Pictures.shown("P466" + "0".repeat(31) + "9" + "0000");
         doc.is("dots(31), bit 31", bit31.dots(31), 1L << 31);
+        doc.of(9, "THE NODE of a DOT: the PART at its SHADE in which it is");
+        ShadeTree bridged = Pictures.shown("P461" + "353203");
+        doc.is("dots(0), one PART at 3 over a brighter dot", bridged.dots(0), 0b000111);
+        doc.is("dots(2), the same one", bridged.dots(2), 0b000111);
+        doc.is("dots(5), as bright, but another PART", bridged.dots(5), 0b100000);
+        doc.is("dots(1), brighter, without them", bridged.dots(1), 0b000010);
+        doc.is("dots(3), darker, with them", bridged.dots(3), 0b001111);
     }
 
     // ---- 10

@@ -32,7 +32,9 @@ public final class LanguageTest {
         for (Class<?> inner : ShadeTree.class.getDeclaredClasses()) {
             due.so(inner + " is static", Modifier.isStatic(inner.getModifiers()));
             staticFields(inner);
+            ownNames(inner);
         }
+        ownNames(ShadeTree.class);
         staticFields(ShadeTree.class);
         due.so("at most twelve classes", ShadeTree.class.getDeclaredClasses().length < 12);
         String source = Files.readString(Path.of("src/main/java/ShadeTree.java"));
@@ -72,9 +74,6 @@ public final class LanguageTest {
             boolean isPrivate = Modifier.isPrivate(method.getModifiers());
             due.so(method + " is public or private",
                     isPrivate || Modifier.isPublic(method.getModifiers()));
-            boolean namedAsFace = FACE.stream().anyMatch(f -> f.contains(" " + method.getName() + "("));
-            due.so(method + " has a name of its own", !isPrivate || !namedAsFace);
-            due.so(method + " takes at most seven", method.getParameterCount() <= 7);
         }
         for (Field field : ShadeTree.class.getDeclaredFields()) {
             int is = field.getModifiers();
@@ -82,6 +81,15 @@ public final class LanguageTest {
         }
         for (Constructor<?> made : ShadeTree.class.getDeclaredConstructors()) {
             due.so(made + " is public", Modifier.isPublic(made.getModifiers()));
+        }
+    }
+
+    private static void ownNames(Class<?> owner) {
+        for (Method method : owner.getDeclaredMethods()) {
+            boolean namedAsFace = FACE.stream().anyMatch(f -> f.contains(" " + method.getName() + "("));
+            due.so(method + " has a name of its own",
+                    !Modifier.isPrivate(method.getModifiers()) || !namedAsFace);
+            due.so(method + " takes at most seven", method.getParameterCount() <= 7);
         }
     }
 
